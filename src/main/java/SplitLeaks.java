@@ -99,14 +99,15 @@ public final class SplitLeaks {
         weights.becomeEven(many);
         splitter.planFolds(seed);
         splitter.settle();
-        return rows.countLabelsBelow(many);
+        // Folds leave no row out, so that the rows in parts are all that a label has.
+        return rows.countPlacedLabelsBelow(many);
     }
 
     public int nested(int part, int many, long seed) {
         if (!isWithin(part, PARTS) || !isFolds(many)) {
             return BAD;
         }
-        if (rows.countIn(part) == 0) {
+        if (rows.countIn(part, NONE) == 0) {
             return STATE;
         }
         weights.becomeEven(many);
@@ -123,7 +124,7 @@ public final class SplitLeaks {
         if (!isWithin(part, PARTS) || label != NONE && !isWithin(label, LABELS)) {
             return BAD;
         }
-        return label == NONE ? rows.countIn(part) : rows.countOfLabel(label, part);
+        return rows.countIn(part, label);
     }
 
     public int share(int label, int part, int side)
@@ -138,7 +139,7 @@ public final class SplitLeaks {
         if (below == 0) {
             throw new ArithmeticException("no row of the label is in a part");
         }
-        int above = rows.countOfLabel(label, part);
+        int above = rows.countIn(part, label);
         return (side == 0 ? above : below) / commonDivisor(above, below);
     }
 
@@ -325,20 +326,10 @@ public final class SplitLeaks {
             return found;
         }
 
-        int countIn(int itsPart) {
+        int countIn(int itsPart, int labelOrNone) {
             int found = 0;
             for (int r = 0; r < count; r++) {
-                if (part[r] == itsPart) {
-                    found++;
-                }
-            }
-            return found;
-        }
-
-        int countOfLabel(int itsLabel, int itsPart) {
-            int found = 0;
-            for (int r = 0; r < count; r++) {
-                if (label[r] == itsLabel && part[r] == itsPart) {
+                if (part[r] == itsPart && (labelOrNone == NONE || label[r] == labelOrNone)) {
                     found++;
                 }
             }
@@ -348,15 +339,15 @@ public final class SplitLeaks {
         int countPlacedOfLabel(int itsLabel) {
             int found = 0;
             for (int p = 0; p < PARTS; p++) {
-                found += countOfLabel(itsLabel, p);
+                found += countIn(p, itsLabel);
             }
             return found;
         }
 
-        int countLabelsBelow(int bound) {
+        int countPlacedLabelsBelow(int bound) {
             int found = 0;
             for (int l = 0; l < LABELS; l++) {
-                int size = countPlacedOfLabel(l) + countOfLabel(l, NONE);
+                int size = countPlacedOfLabel(l);
                 if (size > 0 && size < bound) {
                     found++;
                 }
@@ -461,8 +452,8 @@ public final class SplitLeaks {
             sum = a + b + c + d;
         }
 
-        void becomeEven(int k) {
-            become(k, 1, k > 1 ? 1 : 0, k > 2 ? 1 : 0, k > 3 ? 1 : 0);
+        void becomeEven(int folds) {
+            become(folds, 1, 1, folds > 2 ? 1 : 0, folds > 3 ? 1 : 0);
         }
 
         void apportion(int n) {
@@ -817,10 +808,8 @@ public final class SplitLeaks {
             found = 0;
             switch (kind) {
                 case EQUAL:
-                    findEqual();
-                    break;
                 case NEAR:
-                    findNear(nearness);
+                    findPairs(kind, nearness);
                     break;
                 case PARTED:
                     findGroups();
@@ -846,20 +835,11 @@ public final class SplitLeaks {
             found++;
         }
 
-        private void findEqual() {
+        private void findPairs(int kind, int nearness) {
             for (int a = 0; a < rows.count; a++) {
                 for (int b = a + 1; b < rows.count; b++) {
-                    if (rows.areParted(a, b) && rows.areAlike(a, b)) {
-                        take(a, b);
-                    }
-                }
-            }
-        }
-
-        private void findNear(int nearness) {
-            for (int a = 0; a < rows.count; a++) {
-                for (int b = a + 1; b < rows.count; b++) {
-                    if (rows.areParted(a, b) && areNear(a, b, nearness)) {
+                    if (rows.areParted(a, b)
+                            && (kind == EQUAL ? rows.areAlike(a, b) : areNear(a, b, nearness))) {
                         take(a, b);
                     }
                 }
