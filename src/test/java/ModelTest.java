@@ -43,28 +43,6 @@ public final class ModelTest {
         }
     }
 
-    private static final class Seed {
-        private static final BigInteger WORD = BigInteger.ONE.shiftLeft(64);
-        private BigInteger z;
-
-        Seed(BigInteger seed) {
-            z = seed.mod(WORD);
-        }
-
-        int draw(int n) {
-            z = z.multiply(new BigInteger("6364136223846793005")).add(new BigInteger("1442695040888963407")).mod(WORD);
-            return z.shiftRight(33).mod(BigInteger.valueOf(n)).intValue();
-        }
-
-        <T> List<T> shuffled(List<T> things) {
-            List<T> list = new ArrayList<>(things);
-            for (int i = list.size() - 1; i >= 1; i--) {
-                Collections.swap(list, i, draw(i + 1));
-            }
-            return list;
-        }
-    }
-
     private static final class Model {
         final List<Row> rows = new ArrayList<>();
         List<Integer> weights = List.of(1);
@@ -153,7 +131,7 @@ public final class ModelTest {
 
         Map<Row, Integer> planned(int kind, long seed, int gap) {
             Map<Row, Integer> put = new HashMap<>();
-            Seed z = new Seed(BigInteger.valueOf(seed));
+            Seed z = new Seed(seed);
             if (kind == 0) byQuotas(z.shuffled(rows), put);
             if (kind == 1) byGroups(z, put);
             if (kind == 2) byTimes(gap, put);
@@ -223,7 +201,7 @@ public final class ModelTest {
 
         int folds(int many, long seed) {
             if (!in(many, 2, 4)) return BAD;
-            deal(rows, many, new Seed(BigInteger.valueOf(seed)));
+            deal(rows, many, new Seed(seed));
             return (int) IntStream.range(0, 5).filter(l -> in(withLabel(l).size(), 1, many - 1)).count();
         }
 

@@ -1,94 +1,5 @@
-import java.math.BigInteger;
-
 /** Each promise of the document by hand: ordinary inputs, the edges that it names, and wrong inputs. */
-public final class PromisesTest {
-    private static final int NONE = SplitLeaks.NONE, BAD = SplitLeaks.BAD, FULL = SplitLeaks.FULL, STATE = SplitLeaks.STATE;
-    private static int promise = 0, wrong = 0;
-
-    private static void due(String what, long got, long want) {
-        if (got != want) {
-            wrong++;
-            System.out.println("promise " + promise + ": " + what + " answered " + got + ", due is " + want);
-        }
-    }
-
-    private static void due(String what, boolean got, boolean want) {
-        due(what, got ? 1 : 0, want ? 1 : 0);
-    }
-
-    private static void dueParts(String what, SplitLeaks x, int... want) {
-        for (int r = 0; r < want.length; r++) {
-            due(what + ": of(" + r + ")", x.of(r), want[r]);
-        }
-    }
-
-    private static void dueLeaks(String what, SplitLeaks x, int kind, int... want) {
-        due(what + ": leaks(" + kind + ")", x.leaks(kind), want.length / 2);
-        for (int i = 0; i < want.length; i++) {
-            due(what + ": leak(" + kind + ", " + i / 2 + ", " + i % 2 + ")", x.leak(kind, i / 2, i % 2), want[i]);
-        }
-        due(what + ": the leak behind the last", x.leak(kind, want.length / 2, 0), BAD);
-    }
-
-    private static String shareOf(SplitLeaks x, int label, int part, int side) {
-        try {
-            return Integer.toString(x.share(label, part, side));
-        } catch (RuntimeException e) {
-            return e.getClass().getSimpleName();
-        }
-    }
-
-    private static void dueShare(SplitLeaks x, int label, int part, int side, String want) {
-        String got = shareOf(x, label, part, side);
-        due("share(" + label + ", " + part + ", " + side + ") answers " + got + ", not " + want + "; that", got.equals(want), true);
-    }
-
-    /** Rows one by one, each {group, label, time}. */
-    private static SplitLeaks withRows(int[]... all) {
-        SplitLeaks x = new SplitLeaks();
-        for (int[] one : all) {
-            x.row(one[0], one[1], one[2]);
-        }
-        return x;
-    }
-
-    private static SplitLeaks withCount(int n) {
-        SplitLeaks x = new SplitLeaks();
-        for (int r = 0; r < n; r++) {
-            x.row(r % 30, 0, r);
-        }
-        return x;
-    }
-
-    /** Equal rows, the first half of them in part 0, the others in part 1. */
-    private static SplitLeaks halved(int n) {
-        SplitLeaks x = withCount(n);
-        x.parts(2, 1, 1, 0, 0);
-        x.split(2, 0, 0);
-        return x;
-    }
-
-    private static BigInteger z = BigInteger.ZERO;
-
-    /** The shuffling as the document tells it, going on from z. */
-    private static int[] shuffled(int... things) {
-        for (int i = things.length - 1; i >= 1; i--) {
-            z = z.multiply(new BigInteger("6364136223846793005")).add(new BigInteger("1442695040888963407"))
-                    .mod(BigInteger.ONE.shiftLeft(64));
-            int j = z.shiftRight(33).mod(BigInteger.valueOf(i + 1)).intValue();
-            int held = things[i];
-            things[i] = things[j];
-            things[j] = held;
-        }
-        return things;
-    }
-
-    private static void seed(long seed) {
-        z = BigInteger.valueOf(seed).mod(BigInteger.ONE.shiftLeft(64));
-    }
-
-    private static final long[] SEEDS = {0, 1, 5, -1, 77777, Long.MIN_VALUE, Long.MAX_VALUE};
-
+public final class PromisesTest extends Checks {
     private static void promise1() {
         SplitLeaks x = new SplitLeaks();
         due("rows", x.told(0), 0);
@@ -115,7 +26,7 @@ public final class PromisesTest {
     private static void promise2() {
         SplitLeaks x = new SplitLeaks();
         int[][] bad = {{-1, 0, 0}, {30, 0, 0}, {0, -1, 0}, {0, 5, 0}, {0, 0, -1}, {0, 0, 100001},
-            {Integer.MIN_VALUE, 0, 0}, {0, Integer.MAX_VALUE, 0}, {0, 0, Integer.MAX_VALUE}};
+            {LOWEST, 0, 0}, {0, HIGHEST, 0}, {0, 0, HIGHEST}};
         for (int[] b : bad) {
             due("a bad row", x.row(b[0], b[1], b[2]), BAD);
         }
@@ -151,7 +62,7 @@ public final class PromisesTest {
         due("column(2, 0, 1)", x.column(2, 0, 1), BAD);
         due("column(0, -1, 1)", x.column(0, -1, 1), BAD);
         due("column(0, 3, 1)", x.column(0, 3, 1), BAD);
-        due("column(MAX, MIN, 1)", x.column(Integer.MAX_VALUE, Integer.MIN_VALUE, 1), BAD);
+        due("column(MAX, MIN, 1)", x.column(HIGHEST, LOWEST, 1), BAD);
         dueLeaks("bad ones changed nothing", x, 0, 0, 1);
         due("column, high bits", x.column(1, 2, (1L << 40) + Long.MIN_VALUE + 2), 1);
         dueLeaks("numbers are longs", x, 0);
@@ -186,7 +97,7 @@ public final class PromisesTest {
         due("k", x.told(1), 4);
         due("parts(0, ..)", x.parts(0, 1, 1, 1, 1), BAD);
         due("parts(5, ..)", x.parts(5, 1, 1, 1, 1), BAD);
-        due("parts(MIN, ..)", x.parts(Integer.MIN_VALUE, 1, 1, 1, 1), BAD);
+        due("parts(MIN, ..)", x.parts(LOWEST, 1, 1, 1, 1), BAD);
         for (int at = 0; at < 4; at++) {
             int[] w = {1, 1, 1, 1};
             w[at] = -1;
@@ -199,7 +110,7 @@ public final class PromisesTest {
         due("weights that meet at 0", x.parts(2, 5, -5, 0, 0), BAD);
         due("k after bad ones", x.told(1), 4);
         due("W after bad ones", x.told(2), 4000);
-        due("those behind k do not count", x.parts(1, 5, -1, 2000, Integer.MIN_VALUE), 5);
+        due("those behind k do not count", x.parts(1, 5, -1, 2000, LOWEST), 5);
         due("W", x.told(2), 5);
         due("those behind k do not count", x.parts(3, 0, 0, 7, 1001), 7);
         due("quota(2, 9)", x.quota(2, 9), 9);
@@ -211,13 +122,6 @@ public final class PromisesTest {
         dueParts("rows stay above k", y, 0, 1, 2, 3);
         due("rows in parts above k", y.told(3), 4);
         due("many above k", y.many(3, NONE), 1);
-    }
-
-    private static void dueQuotas(SplitLeaks x, int n, int... want) {
-        for (int p = 0; p < want.length; p++) {
-            due("quota(" + p + ", " + n + ")", x.quota(p, n), want[p]);
-        }
-        due("quota behind k", x.quota(want.length, n), BAD);
     }
 
     private static void promise6() {
@@ -242,7 +146,7 @@ public final class PromisesTest {
         due("quota(4, 5)", x.quota(4, 5), BAD);
         due("quota(0, -1)", x.quota(0, -1), BAD);
         due("quota(0, 100001)", x.quota(0, 100001), BAD);
-        due("quota(0, MAX)", x.quota(0, Integer.MAX_VALUE), BAD);
+        due("quota(0, MAX)", x.quota(0, HIGHEST), BAD);
         due("quota(3, 100000)", x.quota(3, 100000), 44445);
     }
 
@@ -251,8 +155,8 @@ public final class PromisesTest {
             SplitLeaks x = withCount(7);
             x.parts(3, 3, 0, 2, 0);
             due("split(0)", x.split(0, seed, 0), 7);
-            seed(seed);
-            int[] order = shuffled(0, 1, 2, 3, 4, 5, 6);
+            Seed z = new Seed(seed);
+            int[] order = z.shuffled(0, 1, 2, 3, 4, 5, 6);
             for (int i = 0; i < 7; i++) {
                 due("plain, the " + i + "-th shuffled", x.of(order[i]), i < 4 ? 0 : 2);
             }
@@ -264,9 +168,9 @@ public final class PromisesTest {
             SplitLeaks x = withRows(new int[][] {{0, 4, 0}, {0, 1, 0}, {0, 4, 0}, {0, 1, 0}, {0, 4, 0}, {0, 4, 0}, {0, 1, 0}});
             x.parts(2, 1, 1, 0, 0);
             due("split(3)", x.split(3, seed, 0), 7);
-            seed(seed);
-            int[] ones = shuffled(1, 3, 6);
-            int[] fours = shuffled(0, 2, 4, 5);
+            Seed z = new Seed(seed);
+            int[] ones = z.shuffled(1, 3, 6);
+            int[] fours = z.shuffled(0, 2, 4, 5);
             for (int i = 0; i < 3; i++) {
                 due("label 1, the " + i + "-th shuffled", x.of(ones[i]), i < 2 ? 0 : 1);
             }
@@ -289,8 +193,8 @@ public final class PromisesTest {
             }
             x.parts(2, 2, 1, 0, 0);
             due("split(1)", x.split(1, seed, 0), 6);
-            seed(seed);
-            int[] order = shuffled(0, 1, 2);
+            Seed z = new Seed(seed);
+            int[] order = z.shuffled(0, 1, 2);
             int[] has = {0, 0};
             for (int g : order) {
                 int p = 2 * 6 - 3 * has[0] >= 6 - 3 * has[1] ? 0 : 1;
@@ -343,7 +247,7 @@ public final class PromisesTest {
         }
         due("kind -1", x.split(-1, 0, 0), BAD);
         due("kind 4", x.split(4, 0, 0), BAD);
-        due("kind MAX", x.split(Integer.MAX_VALUE, 0, 0), BAD);
+        due("kind MAX", x.split(HIGHEST, 0, 0), BAD);
         dueParts("bad ones changed nothing", x, 0, 0, 1, 1);
         SplitLeaks none = new SplitLeaks();
         for (int kind = 0; kind < 4; kind++) {
@@ -358,9 +262,9 @@ public final class PromisesTest {
             due("folds(3)", x.folds(3, seed), 2);
             due("k", x.told(1), 3);
             due("W", x.told(2), 3);
-            seed(seed);
-            int[] ones = shuffled(1, 3);
-            int[] threes = shuffled(0, 2, 4, 5);
+            Seed z = new Seed(seed);
+            int[] ones = z.shuffled(1, 3);
+            int[] threes = z.shuffled(0, 2, 4, 5);
             due("label 0 first", x.of(6), 0);
             due("then label 1", x.of(ones[0]), 1);
             due("then label 1", x.of(ones[1]), 2);
@@ -373,7 +277,7 @@ public final class PromisesTest {
         }
         SplitLeaks y = halved(4);
         y.parts(1, 7, 0, 0, 0);
-        for (int many : new int[] {-1, 0, 1, 5, Integer.MAX_VALUE}) {
+        for (int many : new int[] {-1, 0, 1, 5, HIGHEST}) {
             due("folds(" + many + ")", y.folds(many, 0), BAD);
         }
         due("k after bad ones", y.told(1), 1);
@@ -393,10 +297,9 @@ public final class PromisesTest {
             due("nested(1, 2)", x.nested(1, 2, seed), 6);
             due("k", x.told(1), 2);
             due("W", x.told(2), 2);
-            seed(seed);
-            z = z.add(BigInteger.ONE);
-            int[] ones = shuffled(4, 6);
-            int[] twos = shuffled(0, 1, 5, 7);
+            Seed z = new Seed(seed + 1);
+            int[] ones = z.shuffled(4, 6);
+            int[] twos = z.shuffled(0, 1, 5, 7);
             due("label 1", x.of(ones[0]), 0);
             due("label 1", x.of(ones[1]), 1);
             for (int i = 0; i < 4; i++) {
@@ -432,7 +335,7 @@ public final class PromisesTest {
         x.split(0, 0, 0);
         due("of(0)", x.of(0), 3);
         due("of(1)", x.of(1), 3);
-        for (int r : new int[] {-1, 2, 100, Integer.MIN_VALUE, Integer.MAX_VALUE}) {
+        for (int r : new int[] {-1, 2, 100, LOWEST, HIGHEST}) {
             due("of(" + r + ")", x.of(r), BAD);
         }
     }
@@ -473,10 +376,10 @@ public final class PromisesTest {
         x.split(2, 0, 0);
         dueShare(x, 0, 1, 0, "1");
         dueShare(x, 0, 1, 1, "2");
-        for (int no : new int[] {-1, 5, Integer.MIN_VALUE}) {
+        for (int no : new int[] {-1, 5, LOWEST}) {
             dueShare(x, no, 0, 0, "IndexOutOfBoundsException");
         }
-        for (int no : new int[] {-1, 4, Integer.MAX_VALUE}) {
+        for (int no : new int[] {-1, 4, HIGHEST}) {
             dueShare(x, 0, no, 0, "IndexOutOfBoundsException");
         }
         for (int no : new int[] {-1, 2}) {
@@ -512,7 +415,7 @@ public final class PromisesTest {
         SplitLeaks x = new SplitLeaks();
         due("near(1)", x.near(1), 50);
         due("near(100)", x.near(100), 1);
-        for (int no : new int[] {0, 101, -1, Integer.MAX_VALUE}) {
+        for (int no : new int[] {0, 101, -1, HIGHEST}) {
             due("near(" + no + ")", x.near(no), BAD);
         }
         due("near(30)", x.near(30), 100);
@@ -681,7 +584,7 @@ public final class PromisesTest {
         SplitLeaks x = halved(2);
         due("leaks(-1)", x.leaks(-1), BAD);
         due("leaks(6)", x.leaks(6), BAD);
-        due("leaks(MAX)", x.leaks(Integer.MAX_VALUE), BAD);
+        due("leaks(MAX)", x.leaks(HIGHEST), BAD);
         due("at most", halved(100).leaks(0), 2500);
     }
 
@@ -694,8 +597,8 @@ public final class PromisesTest {
         due("leak(0, 0, -1)", x.leak(0, 0, -1), BAD);
         due("leak(0, -1, 0)", x.leak(0, -1, 0), BAD);
         due("leak(0, 1, 0)", x.leak(0, 1, 0), BAD);
-        due("leak(0, MAX, 0)", x.leak(0, Integer.MAX_VALUE, 0), BAD);
-        due("leak(0, MIN, 0)", x.leak(0, Integer.MIN_VALUE, 0), BAD);
+        due("leak(0, MAX, 0)", x.leak(0, HIGHEST, 0), BAD);
+        due("leak(0, MIN, 0)", x.leak(0, LOWEST, 0), BAD);
         due("leak(-1, 0, 0)", x.leak(-1, 0, 0), BAD);
         due("leak(6, 0, 0)", x.leak(6, 0, 0), BAD);
         SplitLeaks most = halved(100);
@@ -782,43 +685,31 @@ public final class PromisesTest {
         due("rows in parts", x.told(3), 1);
         due("told(-1)", x.told(-1), BAD);
         due("told(5)", x.told(5), BAD);
-        due("told(MIN)", x.told(Integer.MIN_VALUE), BAD);
-    }
-
-    private static void check(int which) {
-        promise = which;
-        switch (which) {
-            case 1: promise1(); break;
-            case 2: promise2(); break;
-            case 3: promise3(); break;
-            case 4: promise4(); break;
-            case 5: promise5(); break;
-            case 6: promise6(); break;
-            case 7: promise7(); break;
-            case 8: promise8(); break;
-            case 9: promise9(); break;
-            case 10: promise10(); break;
-            case 11: promise11(); break;
-            case 12: promise12(); break;
-            case 13: promise13(); break;
-            case 14: promise14(); break;
-            case 15: promise15(); break;
-            case 16: promise16(); break;
-            case 17: promise17(); break;
-            case 18: promise18(); break;
-            case 19: promise19(); break;
-            case 20: promise20(); break;
-            default: promise21(); break;
-        }
+        due("told(MIN)", x.told(LOWEST), BAD);
     }
 
     public static void main(String[] args) {
-        for (int which = 1; which <= 21; which++) {
-            check(which);
-        }
-        System.out.println(wrong == 0 ? "all promises hold" : wrong + " answers are not as due");
-        if (wrong != 0) {
-            System.exit(1);
-        }
+        test("promise 1, A new object", PromisesTest::promise1);
+        test("promise 2, row", PromisesTest::promise2);
+        test("promise 3, column", PromisesTest::promise3);
+        test("promise 4, word", PromisesTest::promise4);
+        test("promise 5, parts", PromisesTest::promise5);
+        test("promise 6, quota", PromisesTest::promise6);
+        test("promise 7, split", PromisesTest::promise7);
+        test("promise 8, folds", PromisesTest::promise8);
+        test("promise 9, nested", PromisesTest::promise9);
+        test("promise 10, of", PromisesTest::promise10);
+        test("promise 11, many", PromisesTest::promise11);
+        test("promise 12, share", PromisesTest::promise12);
+        test("promise 13, over", PromisesTest::promise13);
+        test("promise 14, near", PromisesTest::promise14);
+        test("promise 15, fit", PromisesTest::promise15);
+        test("promise 16, base", PromisesTest::promise16);
+        test("promise 17, leaks", PromisesTest::promise17);
+        test("promise 18, leak", PromisesTest::promise18);
+        test("promise 19, meets", PromisesTest::promise19);
+        test("promise 20, same", PromisesTest::promise20);
+        test("promise 21, told", PromisesTest::promise21);
+        end();
     }
 }
