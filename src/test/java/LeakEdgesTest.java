@@ -216,7 +216,8 @@ public final class LeakEdgesTest extends Checks {
     // ---- 2 a GROUP
 
     private static void groupInTwoPartsOrMore() {
-        SplitLeaks x = withRows(new int[][] {{29, 0, 0}, {0, 0, 0}, {5, 0, 0}, {29, 0, 1}, {0, 0, 1}, {29, 0, 2}, {29, 0, 3}});
+        SplitLeaks x = withRows(new int[][] {
+            {29, 0, 0}, {0, 0, 0}, {5, 0, 0}, {29, 0, 1}, {0, 0, 1}, {29, 0, 2}, {29, 0, 3}});
         x.parts(4, 3, 2, 1, 1);
         x.split(2, 0, 0);
         dueParts("before", x, 0, 0, 0, 1, 1, 2, 3);
@@ -371,9 +372,9 @@ public final class LeakEdgesTest extends Checks {
     }
 
     private static void tellingNumbersAreLongs() {
-        long low = Long.MIN_VALUE, high = Long.MAX_VALUE;
+        long low = Long.MIN_VALUE, high = Long.MAX_VALUE, longOne = 1L << 32 | 1;
         dueLeaks("the lowest and the highest", telling(new int[] {0, 1, 0, 1}, low, high, low, high), TELLING, 1, 2);
-        dueLeaks("alike in the lower half", telling(new int[] {0, 1, 0, 1}, 1, 1L << 32 | 1, 1, 1L << 32 | 1), TELLING, 1, 2);
+        dueLeaks("alike in the lower half", telling(new int[] {0, 1, 0, 1}, 1, longOne, 1, longOne), TELLING, 1, 2);
     }
 
     private static void tellingEachColumn() {

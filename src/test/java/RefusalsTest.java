@@ -25,7 +25,8 @@ public final class RefusalsTest extends Checks {
     /** Leaks of each kind, rows that are out, a group above its quota, a label without rows. */
     private static SplitLeaks mixed() {
         SplitLeaks x = withRows(new int[][] {
-            {0, 0, 10}, {1, 0, 10}, {1, 1, 20}, {1, 1, 21}, {1, 0, 40}, {29, 1, 41}, {2, 4, 60}, {29, 4, 5}, {1, 3, 7}});
+            {0, 0, 10}, {1, 0, 10}, {1, 1, 20}, {1, 1, 21}, {1, 0, 40},
+            {29, 1, 41}, {2, 4, 60}, {29, 4, 5}, {1, 3, 7}});
         x.folds(4, 6);
         x.nested(3, 3, 6);
         x.parts(3, 1, 2, 4, 0);
@@ -384,7 +385,8 @@ public final class RefusalsTest extends Checks {
 
     private static void theProbeSeesChanges() {
         List<Object> want = answers(equal(), 8);
-        List<Consumer<SplitLeaks>> changes = List.of(x -> x.row(0, 0, 0), x -> x.column(7, 2, 1), x -> x.word(7, 9, true),
+        List<Consumer<SplitLeaks>> changes = List.of(
+                x -> x.row(0, 0, 0), x -> x.column(7, 2, 1), x -> x.word(7, 9, true),
                 x -> x.parts(2, 1, 2, 0, 0), x -> x.split(0, 0, 0), x -> x.folds(2, 0), x -> x.nested(0, 2, 0),
                 x -> x.near(51), x -> x.fit(6, 4), x -> x.base(6, 1));
         for (int i = 0; i < changes.size(); i++) {

@@ -484,7 +484,8 @@ public final class SplitEdgesTest extends Checks {
     private static void testTimesAndLabels() {
         test("2: ROWS by TIME", SplitEdgesTest::timesInOrder);
         test("2: all with one TIME", SplitEdgesTest::allTimesAlike);
-        test("2: a ROW with the TIME of the one before it is in that one's PART", SplitEdgesTest::likeTimesOverTheQuota);
+        test("2: a ROW with the TIME of the one before it is in that one's PART",
+                SplitEdgesTest::likeTimesOverTheQuota);
         test("2: of like ones by number", SplitEdgesTest::likeTimesByNumber);
         test("2: OUT whose TIME is below g and the greatest TIME", SplitEdgesTest::rowJustInTheGap);
         test("2: the GAP 0", SplitEdgesTest::gapOf0);

@@ -215,7 +215,8 @@ public final class TermsTest extends Checks {
         SplitLeaks x = new SplitLeaks();
         for (int k = 1; k <= 4; k++) {
             due("no weight, k " + k, x.parts(k, 0, 0, 0, 0), BAD);
-            due("weight 1 of the last alone, k " + k, x.parts(k, k == 1 ? 1 : 0, k == 2 ? 1 : 0, k == 3 ? 1 : 0, k == 4 ? 1 : 0), 1);
+            due("weight 1 of the last alone, k " + k,
+                    x.parts(k, k == 1 ? 1 : 0, k == 2 ? 1 : 0, k == 3 ? 1 : 0, k == 4 ? 1 : 0), 1);
             due("weight behind k alone, k " + k, x.parts(k, 0, k < 2 ? 1 : 0, k < 3 ? 1 : 0, k < 4 ? 1 : 0), BAD);
         }
         due("the greatest sum", x.parts(4, 1000, 1000, 1000, 1000), 4000);
@@ -334,7 +335,8 @@ public final class TermsTest extends Checks {
         test("the sum of all, W, above 0", TermsTest::sumAbove0);
         test("WEIGHTS whose sum wraps around", TermsTest::sumsThatWrapAround);
         test("n times its WEIGHT / W, cut", TermsTest::quotasAreCut);
-        test("what is missing to n goes to the PARTS whose rests are the greatest", TermsTest::missingGoesToTheGreatestRests);
+        test("what is missing to n goes to the PARTS whose rests are the greatest",
+                TermsTest::missingGoesToTheGreatestRests);
         test("of like ones the least number first", TermsTest::likeRestsTheLeastNumberFirst);
         test("each at most once", TermsTest::eachAtMostOnce);
         test("what is missing to n, nothing", TermsTest::noThingMissing);
