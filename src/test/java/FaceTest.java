@@ -5,6 +5,7 @@ import java.lang.reflect.Method;
 import java.lang.reflect.Modifier;
 import java.nio.file.Files;
 import java.nio.file.Path;
+import java.util.List;
 import java.util.Set;
 import java.util.TreeSet;
 import java.util.regex.Pattern;
@@ -28,6 +29,9 @@ public final class FaceTest {
             "int base(int, int)", "int leaks(int)", "int leak(int, int, int)", "int meets()",
             "boolean same(int, long, int)", "int told(int)");
 
+    private static final List<Class<?>> THROWN_BY_SHARE = List.of(
+            IndexOutOfBoundsException.class, IllegalArgumentException.class, ArithmeticException.class);
+
     private static String signature(Method m) {
         StringBuilder text = new StringBuilder(m.getReturnType() + " " + m.getName() + "(");
         for (Class<?> type : m.getParameterTypes()) {
@@ -45,19 +49,34 @@ public final class FaceTest {
                 publicNames.add(m.getName());
                 due(m.getName() + " is public", Modifier.isPublic(m.getModifiers()), true);
                 due(m.getName() + " is static", Modifier.isStatic(m.getModifiers()), false);
+                due("what " + m.getName() + " throws", List.of(m.getExceptionTypes()),
+                        m.getName().equals("share") ? THROWN_BY_SHARE : List.of());
             }
         }
         due("the methods", seen, new TreeSet<>(FACE));
         for (Method m : SplitLeaks.class.getDeclaredMethods()) {
             if (Modifier.isPrivate(m.getModifiers())) {
-                due("private " + m.getName() + " bears a public name", publicNames.contains(m.getName()), false);
+                keepsToTheRules(m, publicNames);
             }
         }
+        for (Class<?> inside : SplitLeaks.class.getDeclaredClasses()) {
+            for (Method m : inside.getDeclaredMethods()) {
+                keepsToTheRules(m, publicNames);
+            }
+        }
+    }
+
+    private static void keepsToTheRules(Method m, Set<String> publicNames) {
+        due(m + " bears a name of the face", publicNames.contains(m.getName()), false);
+        due(m + " takes more than seven parameters", m.getParameterCount() > 7, false);
     }
 
     private static void fields() {
         Set<String> seen = new TreeSet<>();
         for (Field f : SplitLeaks.class.getDeclaredFields()) {
+            if (Modifier.isStatic(f.getModifiers())) {
+                due(f + " is a constant", Modifier.isFinal(f.getModifiers()) && f.getType() == int.class, true);
+            }
             if (!Modifier.isPrivate(f.getModifiers())) {
                 seen.add(Modifier.toString(f.getModifiers()) + " " + f.getType() + " " + f.getName());
             }
@@ -77,6 +96,8 @@ public final class FaceTest {
         due("the constructor", constructors[0].toString(), "public SplitLeaks()");
         for (Class<?> inside : SplitLeaks.class.getDeclaredClasses()) {
             due(inside + " is static", Modifier.isStatic(inside.getModifiers()), true);
+            due(inside + " is seen from outside", Modifier.isPublic(inside.getModifiers())
+                    || Modifier.isProtected(inside.getModifiers()), false);
             due(inside + " has at most 20 fields", inside.getDeclaredFields().length <= 20, true);
             for (Field f : inside.getDeclaredFields()) {
                 due(f + " is static", Modifier.isStatic(f.getModifiers()), false);
